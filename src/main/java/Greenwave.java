@@ -292,10 +292,15 @@ public final class Greenwave {
     }
 
     private static int modulo(int value, int base) {
-        return base > 0 ? Math.floorMod(value, base) : 0;
+        if (base <= 0) {
+            return 0;
+        }
+        int rest = value % base;
+        return rest < 0 ? rest + base : rest;
     }
 
-    private static int roundedDown(int value, int divisor) {
+    /** Rounds down, for no value that is shared out is below 0. */
+    private static int share(int value, int divisor) {
         return divisor > 0 ? value / divisor : 0;
     }
 
@@ -497,7 +502,7 @@ public final class Greenwave {
             int weight = 0;
             for (int m = 0; m < MOVEMENTS; m++) {
                 if (hasBit(read(sets, phase), m)) {
-                    weight = Math.max(weight, flowOf(m));
+                    weight = Math.max(weight, read(flows, m));
                 }
             }
             return weight;
@@ -506,11 +511,9 @@ public final class Greenwave {
         private void shareOut(int left, int weights) {
             int remaining = left;
             for (int p = 0; p < phases; p++) {
-                int share = weights == 0
-                        ? roundedDown(left, phases)
-                        : roundedDown(left * weightOf(p), weights);
-                write(greens, p, leastGreen(p) + share);
-                remaining -= share;
+                int more = weights == 0 ? share(left, phases) : share(left * weightOf(p), weights);
+                write(greens, p, leastGreen(p) + more);
+                remaining -= more;
             }
             for (int p = 0; p < phases && p < remaining; p++) {
                 write(greens, p, read(greens, p) + 1);

@@ -227,8 +227,8 @@ public final class PlanTest {
         check.is("greens of 7: the last 2", breaching(9, 0).breaches(0), 2);
         check.is("greens of 8, 8, 7: kept", breaching(7, 0).breaches(0), 0);
         Greenwave x = breaching(9, 10);
-        x.setOffset(0, 18);
-        check.is("over the end of the cycle", x.breaches(0), 4);
+        x.setOffset(0, 22);
+        check.is("in 29, 0, 1 and 2", x.breaches(0), 4);
         x.setConflict(0, 0, 2, NONE);
         check.is("no conflict", x.breaches(0), 0);
 

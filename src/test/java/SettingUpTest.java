@@ -119,6 +119,25 @@ public final class SettingUpTest {
         y.begin(5, 90);
         check.is("five junctions", y.junctions(), 5);
         check.is("the flow is 0 again", y.setFlow(0, 0, 3), 0);
+
+        Greenwave z = new Greenwave();
+        z.setFlow(0, 0, 1800);
+        z.run(10);
+        check.is("on their way", z.held(0), 5);
+        z.begin(2, 60);
+        check.is("none any more", z.held(0), 0);
+        z.run(60);
+        check.is("none comes to the end", z.queue(1) + z.through(), 0);
+        z.begin(2, 60);
+        z.setFlow(0, 0, 59);
+        z.run(61);
+        check.is("arrivals of 3599", z.come(), 0);
+        z.begin(2, 60);
+        z.setFlow(0, 0, 59);
+        z.run(61);
+        check.is("arrivals of 3599 again", z.come(), 0);
+        z.run(1);
+        check.is("and of 3658", z.come(), 1);
     }
 
     private static String everything(Greenwave x) {
@@ -269,6 +288,8 @@ public final class SettingUpTest {
         check.refusesArgument("fourth -1", make, g -> g.setPhases(0, 3, 12, 3, -1));
         check.refusesArgument("fourth 16", make, g -> g.setPhases(0, 3, 12, 3, 16));
         check.refusesArgument("third without second", make, g -> g.setPhases(0, 3, 0, 12, 0));
+        check.refusesArgument("third of 1 without second", make, g -> g.setPhases(0, 3, 0, 1, 0));
+        check.refusesArgument("fourth of 1 without third", make, g -> g.setPhases(0, 3, 12, 0, 1));
         check.refusesArgument("fourth without third", make, g -> g.setPhases(0, 3, 12, 0, 3));
         check.refusesArgument("fourth without second", make, g -> g.setPhases(0, 3, 0, 0, 12));
         check.refusesArgument("range ahead of conflict", make, g -> g.setPhases(0, 15, 16, 0, 0));
@@ -411,6 +432,13 @@ public final class SettingUpTest {
         x.setOffset(0, 53);
         check.is("from 43 over 59 to 3", x.improve(), 32);
         check.is("the lowest is 0", x.offset(1), 0);
+        for (int cycle = 60; cycle <= 90; cycle += 2) {
+            Greenwave y = made(2, cycle);
+            y.setLink(0, cycle / 2, 20);
+            check.is("a link of half a cycle: all green of both", y.improve(), 2 * y.green(0, 0));
+            check.is("half a cycle", y.offset(1), cycle / 2);
+            check.is("none is better", y.bestByAll(), 2 * y.green(0, 0));
+        }
         x.setPhases(0, 12, 12, 0, 0);
         x.setOffset(1, 33);
         check.is("no band at all", x.improve(), 0);
