@@ -834,14 +834,17 @@ public final class Greenwave {
         }
 
         private int lowestBestOffset() {
-            int most = greatestOverOffsets(common, single);
+            int lowest = 0;
+            int greatest = 0;
             for (int offset = 0; offset < corridor.cycle; offset++) {
-                if (common.countCommon(single) == most) {
-                    return offset;
+                int both = common.countCommon(single);
+                if (both > greatest) {
+                    greatest = both;
+                    lowest = offset;
                 }
                 single.turn(corridor.cycle);
             }
-            return 0;
+            return lowest;
         }
 
         /** Leaves the turned seconds as they were, for they turn by a whole cycle. */

@@ -330,6 +330,10 @@ public final class PlanTest {
         y.setLink(0, 30, 20);
         y.setLink(1, 30, 20);
         check.is("three: both of 26", y.bestByAll(), 52);
+        y.setOffset(0, 29);
+        check.is("59 alone is best for 1", y.bestByAll(), 52);
+        y.setOffset(0, 30);
+        check.is("0 alone is best for 1", y.bestByAll(), 52);
         check.is("the offset of 1 stays", y.offset(1), 7);
         check.is("the offset of 2 stays", y.offset(2), 8);
         y.setLink(1, 25, 20);
