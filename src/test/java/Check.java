@@ -64,26 +64,52 @@ final class Check {
     private void refuses(String what, Supplier<Greenwave> make, Consumer<Greenwave> call, Class<?> kind) {
         Greenwave called = make.get();
         Greenwave untouched = make.get();
-        String got = answerOf(() -> {
-            call.accept(called);
-            return 0;
-        });
-        same(what, got, kind.getName());
+        same(what, answerOf(called, call), kind.getName());
         same(what + " changes something", stateOf(called), stateOf(untouched));
     }
 
-    /** All that can be asked, and what some more seconds and a call for setting up then do. */
+    void takes(String what, Supplier<Greenwave> make, Consumer<Greenwave> call) {
+        same(what, answerOf(make.get(), call), "0");
+    }
+
+    /** The call must throw what its throws clause names first of what applies, or nothing. */
+    void throwsFirst(String what, Supplier<Greenwave> make, Consumer<Greenwave> call,
+            boolean isIndexWrong, boolean isArgumentWrong, boolean isStateWrong) {
+        if (isIndexWrong) {
+            refusesIndex(what, make, call);
+        } else if (isArgumentWrong) {
+            refusesArgument(what, make, call);
+        } else if (isStateWrong) {
+            refusesState(what, make, call);
+        } else {
+            takes(what, make, call);
+        }
+    }
+
+    private static String answerOf(Greenwave corridor, Consumer<Greenwave> call) {
+        return answerOf(() -> {
+            call.accept(corridor);
+            return 0;
+        });
+    }
+
+    /** All that can be asked, what was set, and what a bus and more seconds then do; at most 270 calls. */
     static String stateOf(Greenwave corridor) {
         StringBuilder text = new StringBuilder();
         addAnswers(text, corridor);
-        text.append(answerOf(() -> corridor.setOffset(1, 3))).append(' ');
-        for (int movement = 0; movement < 4; movement++) {
-            int m = movement;
-            text.append(answerOf(() -> corridor.setFlow(0, m, 1000))).append(' ');
-            text.append(answerOf(() -> corridor.setConflict(0, m, 3 - m, 4))).append(' ');
+        for (int junction = 0; junction < corridor.junctions(); junction++) {
+            addLights(text, corridor, junction);
         }
-        text.append(answerOf(() -> corridor.callBus(0, 1))).append(' ');
-        text.append(answerOf(() -> corridor.run(45))).append(' ');
+        for (int junction = 0; junction < corridor.junctions(); junction++) {
+            addSettings(text, corridor, junction);
+        }
+        int last = corridor.junctions() - 1;
+        // A last junction that is never green fills the links, so that their rooms show.
+        add(text, () -> corridor.setPhases(last, 4, 0, 0, 0));
+        add(text, () -> corridor.callBus(0, 1));
+        add(text, () -> corridor.run(45));
+        addAnswers(text, corridor);
+        add(text, () -> corridor.run(600));
         addAnswers(text, corridor);
         return text.toString();
     }
@@ -102,10 +128,33 @@ final class Check {
             add(text, () -> corridor.queue(k));
             add(text, () -> corridor.held(k));
             add(text, () -> corridor.phaseNow(k));
-            for (int phase = 0; phase < 4; phase++) {
-                int p = phase;
-                add(text, () -> corridor.green(k, p));
-                add(text, () -> corridor.clearing(k, p));
+            add(text, () -> corridor.breaches(k));
+        }
+    }
+
+    private static void addLights(StringBuilder text, Greenwave corridor, int k) {
+        for (int phase = 0; phase < 4; phase++) {
+            int p = phase;
+            add(text, () -> corridor.green(k, p));
+            add(text, () -> corridor.clearing(k, p));
+        }
+        for (int movement = 0; movement < 4; movement++) {
+            int m = movement;
+            add(text, () -> corridor.isGreen(k, m, 0) ? 1 : 0);
+            add(text, () -> corridor.isGreen(k, m, 13) ? 1 : 0);
+            add(text, () -> corridor.isGreen(k, m, 26) ? 1 : 0);
+        }
+    }
+
+    /** What was set, told by setting it to something else; where that is refused, the refusal. */
+    private static void addSettings(StringBuilder text, Greenwave corridor, int k) {
+        add(text, () -> corridor.setOffset(k, 3));
+        for (int movement = 0; movement < 4; movement++) {
+            int m = movement;
+            add(text, () -> corridor.setFlow(k, m, 1750));
+            for (int other = 0; other < m; other++) {
+                int o = other;
+                add(text, () -> corridor.setConflict(k, m, o, Greenwave.NONE));
             }
         }
     }

@@ -25,27 +25,14 @@ public final class PlanTest {
         check.finish();
     }
 
-    private static Greenwave made(int junctions, int cycle) {
-        Greenwave x = new Greenwave();
-        x.begin(junctions, cycle);
-        return x;
-    }
-
-    /** A corridor whose last junction has no plan: 5 + 8 + 9 + 9 seconds do not fit into 30. */
-    private static Greenwave planless(int junctions) {
-        Greenwave x = made(junctions, 30);
-        x.setConflict(junctions - 1, 0, 2, 9);
-        return x;
-    }
-
     // ---- promise 9
 
     private static void junctionsAreCounted() {
         check.is("at first", new Greenwave().junctions(), 2);
         for (int junctions = 2; junctions <= 5; junctions++) {
-            check.is("as begun", made(junctions, 60).junctions(), junctions);
+            check.is("as begun", Corridors.made(junctions, 60).junctions(), junctions);
         }
-        Greenwave x = made(4, 60);
+        Greenwave x = Corridors.made(4, 60);
         x.run(10);
         check.is("also when running", x.junctions(), 4);
     }
@@ -54,7 +41,7 @@ public final class PlanTest {
 
     private static void plansFitOrNot() {
         check.yes("at first", new Greenwave().hasPlan(1));
-        Greenwave x = planless(2);
+        Greenwave x = Corridors.planless(2);
         check.no("31 seconds into 30", x.hasPlan(1));
         check.yes("the other one", x.hasPlan(0));
         x.setConflict(1, 0, 2, 8);
@@ -63,22 +50,22 @@ public final class PlanTest {
         check.no("31 into 30 again", x.hasPlan(1));
         x.setPhases(1, 3, 4, 0, 0);
         check.yes("5 + 5 + 8 + 8 into 30", x.hasPlan(1));
-        Greenwave y = made(2, 31);
+        Greenwave y = Corridors.made(2, 31);
         y.setConflict(0, 0, 2, 9);
         check.yes("31 into 31", y.hasPlan(0));
         check.is("the least green alone", y.green(0, 0), 5);
         check.is("the least green alone, with walkers", y.green(0, 1), 8);
         y.setFlow(0, 0, 1800);
         check.is("nothing is left to share", y.green(0, 0), 5);
-        check.refusesIndex("junction -1", () -> planless(2), g -> g.hasPlan(-1));
-        check.refusesIndex("junction 2", () -> planless(2), g -> g.hasPlan(2));
-        check.refusesIndex("far off", () -> planless(2), g -> g.hasPlan(Integer.MAX_VALUE));
+        check.refusesIndex("junction -1", () -> Corridors.planless(2), g -> g.hasPlan(-1));
+        check.refusesIndex("junction 2", () -> Corridors.planless(2), g -> g.hasPlan(2));
+        check.refusesIndex("far off", () -> Corridors.planless(2), g -> g.hasPlan(Integer.MAX_VALUE));
     }
 
     // ---- promise 11
 
     private static void greensShareWhatIsLeft() {
-        Greenwave x = made(2, 60);
+        Greenwave x = Corridors.made(2, 60);
         x.setFlow(0, 0, 900);
         x.setFlow(0, 1, 700);
         x.setFlow(0, 2, 300);
@@ -91,7 +78,7 @@ public final class PlanTest {
         x.setFlow(0, 2, 0);
         check.is("all weights 0: 5 + 20 + 1", x.green(0, 0), 26);
 
-        Greenwave y = made(2, 61);
+        Greenwave y = Corridors.made(2, 61);
         y.setPhases(0, 1, 2, 4, 8);
         check.is("61 - 23 - 6 = 32: 8 each", y.green(0, 0), 13);
         check.is("walkers", y.green(0, 3), 16);
@@ -105,7 +92,7 @@ public final class PlanTest {
         y.setFlow(0, 3, 7);
         check.is("8 each", y.green(0, 3), 16);
 
-        Greenwave z = made(2, 64);
+        Greenwave z = Corridors.made(2, 64);
         z.setPhases(0, 1, 2, 4, 8);
         check.is("35: 8 each and one more", z.green(0, 0), 14);
         check.is("and one more", z.green(0, 2), 14);
@@ -113,7 +100,7 @@ public final class PlanTest {
     }
 
     private static void greenRefuses() {
-        Supplier<Greenwave> make = () -> planless(2);
+        Supplier<Greenwave> make = () -> Corridors.planless(2);
         check.refusesIndex("junction -1", make, g -> g.green(-1, 0));
         check.refusesIndex("junction 2", make, g -> g.green(2, 0));
         check.refusesIndex("phase -1", make, g -> g.green(0, -1));
@@ -141,13 +128,13 @@ public final class PlanTest {
         check.is("no conflicts", x.clearing(0, 0) + x.clearing(0, 1), 0);
         x.setPhases(0, 1, 0, 0, 0);
         check.is("a single phase", x.clearing(0, 0), 0);
-        Greenwave y = planless(2);
+        Greenwave y = Corridors.planless(2);
         check.is("told without a plan", y.clearing(1, 0), 9);
         check.is("told without a plan, the last", y.clearing(1, 1), 9);
     }
 
     private static void clearingRefuses() {
-        Supplier<Greenwave> make = () -> planless(2);
+        Supplier<Greenwave> make = () -> Corridors.planless(2);
         check.refusesIndex("junction -1", make, g -> g.clearing(-1, 0));
         check.refusesIndex("junction 2", make, g -> g.clearing(2, 0));
         check.refusesIndex("phase -1", make, g -> g.clearing(1, -1));
@@ -158,12 +145,12 @@ public final class PlanTest {
     // ---- promise 13
 
     private static void offsetsAreTold() {
-        Greenwave x = made(3, 90);
+        Greenwave x = Corridors.made(3, 90);
         x.setOffset(2, 89);
         check.is("0 at first", x.offset(1), 0);
         check.is("as set", x.offset(2), 89);
-        check.refusesIndex("junction -1", () -> made(3, 90), g -> g.offset(-1));
-        check.refusesIndex("junction 3", () -> made(3, 90), g -> g.offset(3));
+        check.refusesIndex("junction -1", () -> Corridors.made(3, 90), g -> g.offset(-1));
+        check.refusesIndex("junction 3", () -> Corridors.made(3, 90), g -> g.offset(3));
     }
 
     // ---- promise 14
@@ -194,7 +181,7 @@ public final class PlanTest {
     }
 
     private static void isGreenRefuses() {
-        Supplier<Greenwave> make = () -> planless(2);
+        Supplier<Greenwave> make = () -> Corridors.planless(2);
         check.refusesIndex("junction -1", make, g -> g.isGreen(-1, 0, 0));
         check.refusesIndex("junction 2", make, g -> g.isGreen(2, 0, 0));
         check.refusesIndex("movement -1", make, g -> g.isGreen(0, -1, 0));
@@ -210,7 +197,7 @@ public final class PlanTest {
 
     /** Phases 0, 1 and 2 with one movement each, and nothing cleared between 0 and 1, and 1 and 2. */
     private static Greenwave breaching(int clearance, int flow) {
-        Greenwave x = made(2, 30);
+        Greenwave x = Corridors.made(2, 30);
         x.setPhases(0, 1, 2, 4, 0);
         x.setConflict(0, 1, 2, 0);
         x.setConflict(0, 0, 2, clearance);
@@ -232,13 +219,13 @@ public final class PlanTest {
         x.setConflict(0, 0, 2, NONE);
         check.is("no conflict", x.breaches(0), 0);
 
-        Greenwave y = made(2, 30);
+        Greenwave y = Corridors.made(2, 30);
         y.setPhases(0, 4, 2, 1, 0);
         y.setConflict(0, 1, 2, 0);
         y.setConflict(0, 0, 2, 9);
         check.is("the lower one behind the higher one", y.breaches(0), 2);
 
-        Greenwave z = made(2, 40);
+        Greenwave z = Corridors.made(2, 40);
         z.setPhases(0, 1, 2, 4, 2);
         z.setConflict(0, 1, 2, 0);
         z.setConflict(0, 0, 2, 9);
@@ -248,7 +235,7 @@ public final class PlanTest {
     }
 
     private static void breachesRefuses() {
-        Supplier<Greenwave> make = () -> planless(2);
+        Supplier<Greenwave> make = () -> Corridors.planless(2);
         check.refusesIndex("junction -1", make, g -> g.breaches(-1));
         check.refusesIndex("junction 2", make, g -> g.breaches(2));
         check.refusesState("no plan", make, g -> g.breaches(1));
@@ -283,7 +270,7 @@ public final class PlanTest {
     }
 
     private static void bandsGoRoundTheCycle() {
-        Greenwave x = made(5, 90);
+        Greenwave x = Corridors.made(5, 90);
         int[] seconds = {60, 50, 3, 41};
         int at = 0;
         for (int k = 0; k < 4; k++) {
@@ -306,8 +293,8 @@ public final class PlanTest {
     }
 
     private static void bandRefuses() {
-        check.refusesState("no plan at the last one", () -> planless(4), g -> g.band(true));
-        check.refusesState("no plan at the last one, back", () -> planless(4), g -> g.band(false));
+        check.refusesState("no plan at the last one", () -> Corridors.planless(4), g -> g.band(true));
+        check.refusesState("no plan at the last one, back", () -> Corridors.planless(4), g -> g.band(false));
     }
 
     // ---- promise 17
@@ -324,7 +311,7 @@ public final class PlanTest {
         x.run(10);
         check.is("also when a second has run", x.bestByAll(), 52);
 
-        Greenwave y = made(3, 60);
+        Greenwave y = Corridors.made(3, 60);
         y.setOffset(1, 7);
         y.setOffset(2, 8);
         y.setLink(0, 30, 20);
@@ -343,9 +330,9 @@ public final class PlanTest {
     }
 
     private static void bestByAllRefuses() {
-        check.refusesState("no plan", () -> planless(3), g -> g.bestByAll());
-        check.refusesState("four", () -> made(4, 60), g -> g.bestByAll());
-        check.refusesState("five", () -> made(5, 60), g -> g.bestByAll());
-        check.refusesState("four without a plan", () -> planless(4), g -> g.bestByAll());
+        check.refusesState("no plan", () -> Corridors.planless(3), g -> g.bestByAll());
+        check.refusesState("four", () -> Corridors.made(4, 60), g -> g.bestByAll());
+        check.refusesState("five", () -> Corridors.made(5, 60), g -> g.bestByAll());
+        check.refusesState("four without a plan", () -> Corridors.planless(4), g -> g.bestByAll());
     }
 }

@@ -28,25 +28,6 @@ public final class RunningTest {
         check.finish();
     }
 
-    private static Greenwave made(int junctions, int cycle) {
-        Greenwave x = new Greenwave();
-        x.begin(junctions, cycle);
-        return x;
-    }
-
-    private static Greenwave ran(int seconds) {
-        Greenwave x = new Greenwave();
-        x.run(seconds);
-        return x;
-    }
-
-    /** A corridor whose last junction has no plan: 5 + 8 + 9 + 9 seconds do not fit into 30. */
-    private static Greenwave planless() {
-        Greenwave x = made(3, 30);
-        x.setConflict(2, 0, 2, 9);
-        return x;
-    }
-
     private static void isState(String what, Greenwave x, int... due) {
         int[] got = {x.come(), x.queue(0), x.held(0), x.queue(1), x.through()};
         String[] names = {"come", "queue(0)", "held(0)", "queue(1)", "through"};
@@ -177,7 +158,7 @@ public final class RunningTest {
     }
 
     private static void lastOfManyLetsThrough() {
-        Greenwave x = made(5, 60);
+        Greenwave x = Corridors.made(5, 60);
         x.setFlow(0, 0, 1800);
         for (int k = 0; k < 4; k++) {
             x.setPhases(k, 1, 0, 0, 0);
@@ -198,12 +179,12 @@ public final class RunningTest {
         check.refusesArgument("0", Greenwave::new, g -> g.run(0));
         check.refusesArgument("-1", Greenwave::new, g -> g.run(-1));
         check.refusesArgument("601", Greenwave::new, g -> g.run(601));
-        check.refusesArgument("the least number", () -> ran(30), g -> g.run(Integer.MIN_VALUE));
-        check.refusesArgument("the greatest number", () -> ran(30), g -> g.run(Integer.MAX_VALUE));
-        check.refusesArgument("range ahead of state", RunningTest::planless, g -> g.run(0));
-        check.refusesState("no plan", RunningTest::planless, g -> g.run(1));
-        check.is("600", ran(600).clock(), 600);
-        check.is("1", ran(1).clock(), 1);
+        check.refusesArgument("the least number", () -> Corridors.ran(30), g -> g.run(Integer.MIN_VALUE));
+        check.refusesArgument("the greatest number", () -> Corridors.ran(30), g -> g.run(Integer.MAX_VALUE));
+        check.refusesArgument("range ahead of state", () -> Corridors.planless(3), g -> g.run(0));
+        check.refusesState("no plan", () -> Corridors.planless(3), g -> g.run(1));
+        check.is("600", Corridors.ran(600).clock(), 600);
+        check.is("1", Corridors.ran(1).clock(), 1);
     }
 
     private static Greenwave ranTo7190() {
@@ -237,99 +218,81 @@ public final class RunningTest {
 
     // ---- promises 19 and 21
 
-    /** Where the phases of a junction begin and end in the next seconds, one text for all. */
-    private static String phases(Greenwave x, int junction, int seconds) {
-        StringBuilder text = new StringBuilder();
-        int before = 9;
-        int length = 0;
-        for (int s = 0; s < seconds; s++) {
-            int now = x.phaseNow(junction);
-            if (now != before && length > 0) {
-                text.append(before == NONE ? "-" : Integer.toString(before)).append(':').append(length).append(' ');
-                length = 0;
-            }
-            before = now;
-            length++;
-            x.run(1);
-        }
-        return text.append(before == NONE ? "-" : Integer.toString(before)).append(':').append(length).toString();
-    }
-
     private static void busLengthensItsGreen() {
         Greenwave x = new Greenwave();
-        check.same("by the plan", phases(x, 0, 60), "0:26 -:3 1:28 -:3");
+        check.same("by the plan", Corridors.phases(x, 0, 60), "0:26 -:3 1:28 -:3");
         check.is("5", x.callBus(0, 1), 5);
-        check.same("5 more, and then as planned", phases(x, 0, 120), "0:31 -:3 1:23 -:3 0:26 -:3 1:28 -:3");
+        check.same("5 more, and then as planned", Corridors.phases(x, 0, 120), "0:31 -:3 1:23 -:3 0:26 -:3 1:28 -:3");
         check.is("the plan stays", x.green(0, 0), 26);
         x.run(25);
         check.is("in its last second", x.callBus(0, 0), 5);
-        check.same("5 more behind it", phases(x, 0, 35), "0:6 -:3 1:23 -:3");
+        check.same("5 more behind it", Corridors.phases(x, 0, 35), "0:6 -:3 1:23 -:3");
     }
 
     private static void busBringsForward() {
-        Greenwave x = ran(10);
+        Greenwave x = Corridors.ran(10);
         check.is("5", x.callBus(0, 2), 5);
-        check.same("5 less", phases(x, 0, 110), "0:11 -:3 1:33 -:3 0:26 -:3 1:28 -:3");
+        check.same("5 less", Corridors.phases(x, 0, 110), "0:11 -:3 1:33 -:3 0:26 -:3 1:28 -:3");
         x.run(20);
         check.is("in 20: 5 behind", x.callBus(0, 3), 5);
         check.is("that was its last one", x.phaseNow(0), 0);
-        check.same("1 alone", phases(x, 0, 40), "0:1 -:3 1:33 -:3");
+        check.same("1 alone", Corridors.phases(x, 0, 40), "0:1 -:3 1:33 -:3");
         x.run(21);
         check.is("in 21: 4 behind", x.callBus(0, 3), 4);
-        check.same("1 alone, again", phases(x, 0, 39), "0:1 -:3 1:32 -:3");
+        check.same("1 alone, again", Corridors.phases(x, 0, 39), "0:1 -:3 1:32 -:3");
         x.run(25);
         check.is("in 25: nothing behind", x.callBus(0, 2), 0);
-        check.same("as planned", phases(x, 0, 35), "0:1 -:3 1:28 -:3");
+        check.same("as planned", Corridors.phases(x, 0, 35), "0:1 -:3 1:28 -:3");
         check.is("the other one has its own", x.phaseNow(1), 0);
     }
 
     /** A cycle of 33 leaves 14: greens of 12 and 15; weights make them 5 and 22, or 19 and 8. */
     private static void busGetsWhatIsThere() {
         Supplier<Greenwave> walkers = () -> {
-            Greenwave x = made(2, 33);
+            Greenwave x = Corridors.made(2, 33);
             x.setFlow(0, 3, 1000);
             return x;
         };
         Greenwave x = walkers.get();
         check.is("green 0 is the least", x.green(0, 0), 5);
         check.is("cannot be less", x.callBus(0, 2), 0);
-        check.same("as planned", phases(x, 0, 33), "0:5 -:3 1:22 -:3");
+        check.same("as planned", Corridors.phases(x, 0, 33), "0:5 -:3 1:22 -:3");
         check.is("but the other can", x.callBus(0, 0), 5);
-        check.same("5 more", phases(x, 0, 33), "0:10 -:3 1:17 -:3");
-        Greenwave y = made(2, 33);
+        check.same("5 more", Corridors.phases(x, 0, 33), "0:10 -:3 1:17 -:3");
+        Greenwave y = Corridors.made(2, 33);
         y.setFlow(0, 0, 13);
         y.setFlow(0, 3, 1);
         check.is("8 + 1", y.green(0, 1), 9);
         check.is("1 above the least one", y.callBus(0, 0), 1);
-        check.same("1 more", phases(y, 0, 33), "0:19 -:3 1:8 -:3");
-        Greenwave z = made(2, 33);
+        check.same("1 more", Corridors.phases(y, 0, 33), "0:19 -:3 1:8 -:3");
+        Greenwave z = Corridors.made(2, 33);
         z.setFlow(0, 0, 3);
         z.setFlow(0, 3, 11);
         check.is("5 + 3", z.green(0, 0), 8);
         check.is("3 above the least one", z.callBus(0, 3), 3);
-        check.same("3 less", phases(z, 0, 33), "0:5 -:3 1:22 -:3");
+        check.same("3 less", Corridors.phases(z, 0, 33), "0:5 -:3 1:22 -:3");
     }
 
     private static void busGetsNothing() {
-        Greenwave x = ran(26);
+        Greenwave x = Corridors.ran(26);
         check.is("in a clearing", x.callBus(0, 0), 0);
         check.is("the other one, in a clearing, for a later phase", x.callBus(1, 2), 0);
         x.run(3);
         check.refusesState("that was a call, too", () -> {
-            Greenwave y = ran(28);
+            Greenwave y = Corridors.ran(28);
             y.callBus(0, 0);
             y.run(1);
             return y;
         }, g -> g.callBus(0, 2));
-        Greenwave last = ran(29);
+        Greenwave last = Corridors.ran(29);
         check.is("in the last phase, for it", last.callBus(0, 2), 0);
-        Greenwave behind = ran(29);
+        Greenwave behind = Corridors.ran(29);
         check.is("in a later phase than its own", behind.callBus(0, 0), 0);
-        check.same("as planned", phases(behind, 0, 31), "1:28 -:3");
+        check.same("as planned", Corridors.phases(behind, 0, 31), "1:28 -:3");
         Greenwave single = new Greenwave();
         single.setPhases(0, 3, 0, 0, 0);
         check.is("a single phase", single.callBus(0, 0), 0);
-        check.same("a single green", phases(single, 0, 70), "0:70");
+        check.same("a single green", Corridors.phases(single, 0, 70), "0:70");
         Greenwave twice = new Greenwave();
         twice.setPhases(0, 4, 1, 12, 3);
         twice.run(30);
@@ -339,7 +302,7 @@ public final class RunningTest {
 
     /** Four phases of 9, 8, 11 and 8 seconds, each cleared for 3, in a cycle of 48. */
     private static Greenwave fourPhases() {
-        Greenwave x = made(2, 48);
+        Greenwave x = Corridors.made(2, 48);
         x.setPhases(0, 1, 4, 2, 12);
         check.is("green 0", x.green(0, 0), 9);
         check.is("green 1", x.green(0, 1), 8);
@@ -351,12 +314,12 @@ public final class RunningTest {
     private static void busLeavesTheRest() {
         Greenwave x = fourPhases();
         check.is("for the phase 3, 4 above the least", x.callBus(0, 3), 4);
-        check.same("what lies between comes earlier", phases(x, 0, 96),
+        check.same("what lies between comes earlier", Corridors.phases(x, 0, 96),
                 "0:5 -:3 1:8 -:3 2:8 -:3 3:15 -:3 0:9 -:3 1:8 -:3 2:8 -:3 3:11 -:3");
         Greenwave y = fourPhases();
         y.run(12);
         check.is("the phase behind gives 3", y.callBus(0, 2), 3);
-        check.same("the phase 1 and not 3 is the lowest", phases(y, 0, 36), "1:11 -:3 2:5 -:3 3:11 -:3");
+        check.same("the phase 1 and not 3 is the lowest", Corridors.phases(y, 0, 36), "1:11 -:3 2:5 -:3 3:11 -:3");
         Greenwave z = fourPhases();
         z.run(34);
         check.is("in the phase 3, the lowest one is 1", z.callBus(0, 2), 0);
@@ -366,7 +329,7 @@ public final class RunningTest {
         Greenwave v = fourPhases();
         v.run(24);
         check.is("in the phase 2, in its second second", v.callBus(0, 3), 3);
-        check.same("the phase 3 is longer", phases(v, 0, 24), "2:4 -:3 3:14 -:3");
+        check.same("the phase 3 is longer", Corridors.phases(v, 0, 24), "2:4 -:3 3:14 -:3");
     }
 
     private static void oneBusInACycle() {
@@ -426,9 +389,9 @@ public final class RunningTest {
         check.refusesIndex("junction 2", Greenwave::new, g -> g.callBus(2, 0));
         check.refusesIndex("movement -1", Greenwave::new, g -> g.callBus(0, -1));
         check.refusesIndex("movement 4", Greenwave::new, g -> g.callBus(0, 4));
-        check.refusesIndex("index ahead of state", RunningTest::planless, g -> g.callBus(0, 4));
-        check.refusesState("no plan at another one", RunningTest::planless, g -> g.callBus(0, 0));
-        check.refusesState("no plan", RunningTest::planless, g -> g.callBus(2, 0));
+        check.refusesIndex("index ahead of state", () -> Corridors.planless(3), g -> g.callBus(0, 4));
+        check.refusesState("no plan at another one", () -> Corridors.planless(3), g -> g.callBus(0, 0));
+        check.refusesState("no plan", () -> Corridors.planless(3), g -> g.callBus(2, 0));
         check.refusesState("no phase has it", () -> {
             Greenwave x = new Greenwave();
             x.setPhases(0, 1, 4, 0, 0);
@@ -447,10 +410,10 @@ public final class RunningTest {
     }
 
     private static void phaseNowRefuses() {
-        check.refusesIndex("junction -1", RunningTest::planless, g -> g.phaseNow(-1));
-        check.refusesIndex("junction 3", RunningTest::planless, g -> g.phaseNow(3));
-        check.refusesState("no plan", RunningTest::planless, g -> g.phaseNow(2));
-        check.is("the other one has", planless().phaseNow(1), 0);
+        check.refusesIndex("junction -1", () -> Corridors.planless(3), g -> g.phaseNow(-1));
+        check.refusesIndex("junction 3", () -> Corridors.planless(3), g -> g.phaseNow(3));
+        check.refusesState("no plan", () -> Corridors.planless(3), g -> g.phaseNow(2));
+        check.is("the other one has", Corridors.planless(3).phaseNow(1), 0);
         Greenwave x = new Greenwave();
         x.setOffset(0, 1);
         x.setOffset(1, 31);
@@ -464,7 +427,7 @@ public final class RunningTest {
 
     private static void queuesAndLinksAreTold() {
         Supplier<Greenwave> make = () -> {
-            Greenwave x = made(3, 60);
+            Greenwave x = Corridors.made(3, 60);
             x.setFlow(0, 0, 1800);
             x.run(100);
             return x;
@@ -477,7 +440,7 @@ public final class RunningTest {
         Greenwave x = make.get();
         check.is("none is lost", x.queue(0) + x.held(0) + x.held(1) + x.through(), x.come());
         check.yes("a link holds the queue at its end", x.held(0) >= x.queue(1));
-        check.is("told without a plan", planless().queue(2) + planless().held(1), 0);
+        check.is("told without a plan", Corridors.planless(3).queue(2) + Corridors.planless(3).held(1), 0);
     }
 
     private static void clockComesFromRunning() {

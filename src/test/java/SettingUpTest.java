@@ -28,31 +28,6 @@ public final class SettingUpTest {
         check.finish();
     }
 
-    private static Greenwave made(int junctions, int cycle) {
-        Greenwave x = new Greenwave();
-        x.begin(junctions, cycle);
-        return x;
-    }
-
-    private static Greenwave started() {
-        Greenwave x = new Greenwave();
-        x.run(1);
-        return x;
-    }
-
-    private static Greenwave called() {
-        Greenwave x = new Greenwave();
-        x.callBus(0, 0);
-        return x;
-    }
-
-    /** A corridor whose junction 1 has no plan: 5 + 8 + 9 + 9 seconds do not fit into 30. */
-    private static Greenwave planless() {
-        Greenwave x = made(2, 30);
-        x.setConflict(1, 0, 2, 9);
-        return x;
-    }
-
     // ---- promise 1
 
     private static void newObject() {
@@ -76,7 +51,7 @@ public final class SettingUpTest {
 
     private static void beginSetsTheCorridor() {
         for (int junctions = 2; junctions <= 5; junctions++) {
-            Greenwave x = made(junctions, 30);
+            Greenwave x = Corridors.made(junctions, 30);
             check.is("junctions", x.junctions(), junctions);
             for (int k = 0; k < junctions; k++) {
                 check.is("greens and clearings of 30",
@@ -84,16 +59,16 @@ public final class SettingUpTest {
                 check.is("offset within 30", x.setOffset(k, 29), 0);
             }
         }
-        check.refusesArgument("offset 30 of 30", () -> made(5, 30), g -> g.setOffset(4, 30));
-        Greenwave y = made(5, 90);
+        check.refusesArgument("offset 30 of 30", () -> Corridors.made(5, 30), g -> g.setOffset(4, 30));
+        Greenwave y = Corridors.made(5, 90);
         check.is("offset within 90", y.setOffset(4, 89), 0);
         check.is("green of 90", y.green(4, 0) + y.green(4, 1), 84);
-        check.refusesArgument("offset 90 of 90", () -> made(5, 90), g -> g.setOffset(4, 90));
-        check.refusesIndex("junction 3 of 3", () -> made(3, 40), g -> g.queue(3));
+        check.refusesArgument("offset 90 of 90", () -> Corridors.made(5, 90), g -> g.setOffset(4, 90));
+        check.refusesIndex("junction 3 of 3", () -> Corridors.made(3, 40), g -> g.queue(3));
     }
 
     private static void beginResetsAll() {
-        Greenwave x = made(4, 50);
+        Greenwave x = Corridors.made(4, 50);
         for (int k = 0; k < 4; k++) {
             x.setConflict(k, 0, 1, NONE);
             x.setConflict(k, 0, 2, NONE);
@@ -109,9 +84,9 @@ public final class SettingUpTest {
         x.run(200);
         x.callBus(2, 1);
         x.begin(4, 50);
-        check.same("all as in a new one", everything(x), everything(made(4, 50)));
+        check.same("all as in a new one", everything(x), everything(Corridors.made(4, 50)));
 
-        Greenwave y = called();
+        Greenwave y = Corridors.called();
         y.begin(2, 60);
         check.is("a bus may call again", y.callBus(0, 0), 5);
         y.begin(2, 60);
@@ -164,7 +139,7 @@ public final class SettingUpTest {
 
     private static void beginRefuses() {
         Supplier<Greenwave> make = () -> {
-            Greenwave x = made(3, 40);
+            Greenwave x = Corridors.made(3, 40);
             x.setFlow(0, 0, 1800);
             x.run(33);
             return x;
@@ -219,13 +194,13 @@ public final class SettingUpTest {
         check.refusesIndex("other -1", make, g -> g.setConflict(0, 0, -1, 3));
         check.refusesIndex("other 4", make, g -> g.setConflict(0, 0, 4, 3));
         check.refusesIndex("index ahead of same and range", make, g -> g.setConflict(0, 4, 4, 99));
-        check.refusesIndex("index ahead of state", SettingUpTest::started, g -> g.setConflict(0, 0, 4, 3));
+        check.refusesIndex("index ahead of state", () -> Corridors.ran(1), g -> g.setConflict(0, 0, 4, 3));
         check.refusesArgument("same", make, g -> g.setConflict(0, 2, 2, 3));
         check.refusesArgument("same, none", make, g -> g.setConflict(0, 2, 2, NONE));
         check.refusesArgument("clearance -2", make, g -> g.setConflict(0, 0, 2, -2));
         check.refusesArgument("clearance 10", make, g -> g.setConflict(0, 0, 2, 10));
         check.refusesArgument("range ahead of the phase", make, g -> g.setConflict(0, 0, 1, 10));
-        check.refusesArgument("range ahead of state", SettingUpTest::started, g -> g.setConflict(0, 0, 2, 10));
+        check.refusesArgument("range ahead of state", () -> Corridors.ran(1), g -> g.setConflict(0, 0, 2, 10));
         check.refusesState("in one phase", make, g -> g.setConflict(0, 0, 1, 0));
         check.refusesState("in one phase, other way", make, g -> g.setConflict(1, 3, 2, 9));
         check.refusesState("in the last phase", () -> {
@@ -233,9 +208,9 @@ public final class SettingUpTest {
             x.setPhases(1, 1, 2, 4, 12);
             return x;
         }, g -> g.setConflict(1, 2, 3, 1));
-        check.refusesState("a second has run", SettingUpTest::started, g -> g.setConflict(0, 0, 2, 3));
-        check.refusesState("none, a second has run", SettingUpTest::started, g -> g.setConflict(0, 0, 2, NONE));
-        check.refusesState("a bus has called", SettingUpTest::called, g -> g.setConflict(1, 0, 2, 3));
+        check.refusesState("a second has run", () -> Corridors.ran(1), g -> g.setConflict(0, 0, 2, 3));
+        check.refusesState("none, a second has run", () -> Corridors.ran(1), g -> g.setConflict(0, 0, 2, NONE));
+        check.refusesState("a bus has called", Corridors::called, g -> g.setConflict(1, 0, 2, 3));
     }
 
     // ---- promise 4
@@ -277,7 +252,7 @@ public final class SettingUpTest {
         check.refusesIndex("junction -1", make, g -> g.setPhases(-1, 3, 12, 0, 0));
         check.refusesIndex("junction 2", make, g -> g.setPhases(2, 3, 12, 0, 0));
         check.refusesIndex("index ahead of range", make, g -> g.setPhases(2, 0, 16, 0, 0));
-        check.refusesIndex("index ahead of state", SettingUpTest::started, g -> g.setPhases(2, 3, 12, 0, 0));
+        check.refusesIndex("index ahead of state", () -> Corridors.ran(1), g -> g.setPhases(2, 3, 12, 0, 0));
         check.refusesArgument("first 0", make, g -> g.setPhases(0, 0, 12, 0, 0));
         check.refusesArgument("first -1", make, g -> g.setPhases(0, -1, 12, 0, 0));
         check.refusesArgument("first 16", make, g -> g.setPhases(0, 16, 12, 0, 0));
@@ -293,7 +268,7 @@ public final class SettingUpTest {
         check.refusesArgument("fourth without third", make, g -> g.setPhases(0, 3, 12, 0, 3));
         check.refusesArgument("fourth without second", make, g -> g.setPhases(0, 3, 0, 0, 12));
         check.refusesArgument("range ahead of conflict", make, g -> g.setPhases(0, 15, 16, 0, 0));
-        check.refusesArgument("range ahead of state", SettingUpTest::started, g -> g.setPhases(0, 0, 0, 0, 0));
+        check.refusesArgument("range ahead of state", () -> Corridors.ran(1), g -> g.setPhases(0, 0, 0, 0, 0));
         check.refusesState("conflict in the phase 0", make, g -> g.setPhases(0, 5, 10, 0, 0));
         check.refusesState("conflict in the phase 1", make, g -> g.setPhases(0, 3, 9, 0, 0));
         check.refusesState("conflict in the phase 2", make, g -> g.setPhases(0, 3, 12, 6, 0));
@@ -304,8 +279,8 @@ public final class SettingUpTest {
             x.setConflict(0, 0, 1, 0);
             return x;
         }, g -> g.setPhases(0, 3, 12, 0, 0));
-        check.refusesState("a second has run", SettingUpTest::started, g -> g.setPhases(0, 3, 12, 0, 0));
-        check.refusesState("a bus has called", SettingUpTest::called, g -> g.setPhases(1, 3, 12, 0, 0));
+        check.refusesState("a second has run", () -> Corridors.ran(1), g -> g.setPhases(0, 3, 12, 0, 0));
+        check.refusesState("a bus has called", Corridors::called, g -> g.setPhases(1, 3, 12, 0, 0));
     }
 
     // ---- promise 5
@@ -332,18 +307,18 @@ public final class SettingUpTest {
         check.refusesIndex("movement -1", make, g -> g.setFlow(0, -1, 3));
         check.refusesIndex("movement 4", make, g -> g.setFlow(0, 4, 3));
         check.refusesIndex("index ahead of range", make, g -> g.setFlow(0, 4, -3));
-        check.refusesIndex("index ahead of state", SettingUpTest::started, g -> g.setFlow(0, 4, 3));
+        check.refusesIndex("index ahead of state", () -> Corridors.ran(1), g -> g.setFlow(0, 4, 3));
         check.refusesArgument("flow -1", make, g -> g.setFlow(0, 0, -1));
         check.refusesArgument("flow 1801", make, g -> g.setFlow(0, 0, 1801));
-        check.refusesArgument("range ahead of state", SettingUpTest::called, g -> g.setFlow(0, 0, 1801));
-        check.refusesState("a second has run", SettingUpTest::started, g -> g.setFlow(0, 0, 3));
-        check.refusesState("a bus has called", SettingUpTest::called, g -> g.setFlow(0, 0, 3));
+        check.refusesArgument("range ahead of state", Corridors::called, g -> g.setFlow(0, 0, 1801));
+        check.refusesState("a second has run", () -> Corridors.ran(1), g -> g.setFlow(0, 0, 3));
+        check.refusesState("a bus has called", Corridors::called, g -> g.setFlow(0, 0, 3));
     }
 
     // ---- promise 6
 
     private static void setLinkChanges() {
-        Greenwave x = made(3, 60);
+        Greenwave x = Corridors.made(3, 60);
         check.is("green for 26, links of 10 and 10", x.band(true), 6);
         x.setLink(0, 1, 1);
         check.is("1 and 10", x.band(true), 15);
@@ -366,9 +341,9 @@ public final class SettingUpTest {
     }
 
     private static void setLinkRefuses() {
-        Supplier<Greenwave> make = () -> made(3, 60);
+        Supplier<Greenwave> make = () -> Corridors.made(3, 60);
         Supplier<Greenwave> ran = () -> {
-            Greenwave x = made(3, 60);
+            Greenwave x = Corridors.made(3, 60);
             x.run(1);
             return x;
         };
@@ -383,7 +358,7 @@ public final class SettingUpTest {
         check.refusesArgument("room 41", make, g -> g.setLink(1, 10, 41));
         check.refusesArgument("range ahead of state", ran, g -> g.setLink(1, 10, 41));
         check.refusesState("a second has run", ran, g -> g.setLink(0, 10, 20));
-        check.refusesState("a bus has called", SettingUpTest::called, g -> g.setLink(0, 10, 20));
+        check.refusesState("a bus has called", Corridors::called, g -> g.setLink(0, 10, 20));
     }
 
     // ---- promise 7
@@ -406,12 +381,12 @@ public final class SettingUpTest {
         check.refusesIndex("junction -1", make, g -> g.setOffset(-1, 0));
         check.refusesIndex("junction 2", make, g -> g.setOffset(2, 0));
         check.refusesIndex("index ahead of range", make, g -> g.setOffset(2, -1));
-        check.refusesIndex("index ahead of state", SettingUpTest::started, g -> g.setOffset(2, 0));
+        check.refusesIndex("index ahead of state", () -> Corridors.ran(1), g -> g.setOffset(2, 0));
         check.refusesArgument("offset -1", make, g -> g.setOffset(0, -1));
         check.refusesArgument("offset 60", make, g -> g.setOffset(1, 60));
-        check.refusesArgument("range ahead of state", SettingUpTest::started, g -> g.setOffset(1, 60));
-        check.refusesState("a second has run", SettingUpTest::started, g -> g.setOffset(0, 0));
-        check.refusesState("a bus has called", SettingUpTest::called, g -> g.setOffset(0, 0));
+        check.refusesArgument("range ahead of state", () -> Corridors.ran(1), g -> g.setOffset(1, 60));
+        check.refusesState("a second has run", () -> Corridors.ran(1), g -> g.setOffset(0, 0));
+        check.refusesState("a bus has called", Corridors::called, g -> g.setOffset(0, 0));
     }
 
     // ---- promise 8
@@ -433,7 +408,7 @@ public final class SettingUpTest {
         check.is("from 43 over 59 to 3", x.improve(), 32);
         check.is("the lowest is 0", x.offset(1), 0);
         for (int cycle = 60; cycle <= 90; cycle += 2) {
-            Greenwave y = made(2, cycle);
+            Greenwave y = Corridors.made(2, cycle);
             y.setLink(0, cycle / 2, 20);
             check.is("a link of half a cycle: all green of both", y.improve(), 2 * y.green(0, 0));
             check.is("half a cycle", y.offset(1), cycle / 2);
@@ -447,7 +422,7 @@ public final class SettingUpTest {
 
     /** Junction 1 is green for both ways all the time, so it goes to 0, and junction 2 decides. */
     private static void improveGoesOn() {
-        Greenwave x = made(3, 60);
+        Greenwave x = Corridors.made(3, 60);
         x.setPhases(1, 3, 0, 0, 0);
         x.setLink(0, 5, 20);
         x.setLink(1, 6, 20);
@@ -462,7 +437,7 @@ public final class SettingUpTest {
 
     /** In each of the first eleven rounds an offset becomes less by 1. */
     private static void improveEndsWithTheTenthRound() {
-        Greenwave x = made(4, 44);
+        Greenwave x = Corridors.made(4, 44);
         int[][] flows = {{4, 1134, 0, 1495}, {1391, 0, 566, 0}, {830, 0, 96, 284}, {539, 0, 0, 666}};
         int[] links = {19, 29, 18};
         int[] offsets = {23, 10, 33, 12};
@@ -487,13 +462,13 @@ public final class SettingUpTest {
     }
 
     private static void improveRefuses() {
-        check.refusesState("no plan at the last one", SettingUpTest::planless, g -> g.improve());
+        check.refusesState("no plan at the last one", () -> Corridors.planless(2), g -> g.improve());
         check.refusesState("no plan at the first one", () -> {
-            Greenwave x = made(2, 30);
+            Greenwave x = Corridors.made(2, 30);
             x.setConflict(0, 0, 2, 9);
             return x;
         }, g -> g.improve());
-        check.refusesState("a second has run", SettingUpTest::started, g -> g.improve());
-        check.refusesState("a bus has called", SettingUpTest::called, g -> g.improve());
+        check.refusesState("a second has run", () -> Corridors.ran(1), g -> g.improve());
+        check.refusesState("a bus has called", Corridors::called, g -> g.improve());
     }
 }
